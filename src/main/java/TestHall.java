@@ -115,7 +115,7 @@ public final class TestHall {
 
     public boolean leave(int learner) {
         Learner who = find(learner);
-        if (who == null || who.state != WAITING && who.state != BOOKED) {
+        if (who == null || (who.state != WAITING && who.state != BOOKED)) {
             return false;
         }
         int freed = who.slot;

@@ -38,6 +38,7 @@ public final class PromiseTests {
         textLimits();
         textIsReplaced();
         order();
+        orderOfMany();
         orderOverTime();
         deal();
         dealByOrder();
@@ -45,9 +46,11 @@ public final class PromiseTests {
         cancel();
         cancelChain();
         cancelByOrder();
+        cancelByPapers();
         leave();
         shut();
         shutByOrder();
+        shutLeavesOthers();
         days();
         held();
         look();
@@ -245,6 +248,9 @@ public final class PromiseTests {
         dueText("first 5 when 1 * 2 ;", 1, 15);
         dueText("first 5 when 1 , 2 ;", 1, 15);
         dueText("FIRST", 1, 0);
+        dueText("xirst", 1, 0);
+        dueText("first 5 when sortz ;", 1, 13);
+        dueText("first 5 when asort ;", 1, 13);
     }
 
     private static void textFaults() {
@@ -313,6 +319,12 @@ public final class PromiseTests {
         due("town 0 goes first", hall.look(0, 3), 0);
         due("no text", hall.text(), 0);
         due("no lines", hall.count(7), 0);
+        due("sixteen lines", read(hall, "first 1 when 0;".repeat(15) + "first 1 when town;"), 0);
+        due("by the last line", hall.look(1, 3), 0);
+        due("none that holds", read(hall, "first 1 when 0;".repeat(16)), 0);
+        due("by numbers", hall.look(1, 3), 1);
+        due("one line in place of sixteen", read(hall, "first 1 when 0;"), 0);
+        due("the older lines are gone", hall.look(1, 3), 1);
     }
 
     /** Two learners of sorts 1 and 2: who is first tells whether the condition holds of the later one. */
@@ -350,6 +362,11 @@ public final class PromiseTests {
         dueHolds("1 and 1 and 0", false);
         dueHolds("(3 < 4) + (4 = 4) = 2", true);
         dueHolds("9999 + 1 = 5000 + 5000", true);
+        dueHolds("1 < 2 + day", true);
+        dueHolds("1 and 2 = 3 + day - 1", true);
+        String left = "1 and 3 < 3 + ";
+        dueHolds("(" + left + "(" + left + "(" + left + "1)))", true);
+        dueHolds("(" + left + "(" + left + "(" + left + "0)))", false);
         TestHall hall = new TestHall();
         for (int sort = 0; sort < 4; sort++) {
             hall.learner(0, sort, 0, 59, 0, false);
@@ -363,6 +380,28 @@ public final class PromiseTests {
         hall.leave(1);
         due("the gone have no place", hall.look(1, 3), -1);
         due("and leave theirs", hall.look(2, 3), 0);
+    }
+
+    private static void orderOfMany() {
+        TestHall hall = new TestHall();
+        int[] ranks = {3, 1, 4, 1, 5, 0};
+        for (int i = 0; i < 6; i++) {
+            anyLearner(hall, i);
+        }
+        StringBuilder text = new StringBuilder();
+        for (int i = 0; i < 6; i++) {
+            text.append("first ").append(ranks[i]).append(" when town = ").append(i).append(";");
+        }
+        due("a line for each town", read(hall, text.toString()), 0);
+        int[] places = {2, 3, 1, 4, 0, 5};
+        for (int i = 0; i < 6; i++) {
+            due("place of " + i, hall.look(i, 3), places[i]);
+        }
+        String deepest = "1 and 1 < 1 + (";
+        String deep = "first 1 when " + deepest.repeat(4) + "1 and 1 < 1 + town" + "))));";
+        due("the deepest condition", read(hall, deep), 0);
+        due("town 0 is behind", hall.look(0, 3), 5);
+        due("town 1 is first", hall.look(1, 3), 0);
     }
 
     private static void orderOverTime() {
@@ -505,6 +544,33 @@ public final class PromiseTests {
         due("none of another town", towns.cancel(0), 0);
     }
 
+    private static void cancelByPapers() {
+        TestHall hall = hallIn(0, 1, 3);
+        soonerLearner(hall, 0, 0);
+        int first = anyLearner(hall, 0);
+        read(hall, "first 1 when left = 58 ;");
+        hall.learner(0, 0, 0, 58, 0, false);
+        hall.deal();
+        due("learner 0 moves", hall.cancel(2), 1);
+        due("learner 0 is moved", hall.look(0, 1), 48);
+        due("the other is not", hall.look(first, 1), 64);
+        TestHall edges = hallIn(0, 1, 2);
+        for (int i = 0; i < 4; i++) {
+            anyLearner(edges, 0);
+        }
+        int last = edges.learner(0, 0, 1, 1, 1, true);
+        edges.deal();
+        due("a day that is first and last of the papers, and the wish", edges.cancel(0), 1);
+        due("moved on it", edges.look(last, 1), 48);
+        int[] bounds = new int[2];
+        bounds[0] = edges.learner(0, 0, 2, 59, 0, true);
+        bounds[1] = edges.learner(0, 0, 0, 59, 2, true);
+        edges.deal();
+        due("papers from the next day on", edges.look(bounds[0], 1), 96);
+        due("none for whom the day is too soon", edges.cancel(last), 0);
+        due("wish stays", edges.look(bounds[1], 1), 104);
+    }
+
     private static void cancelByOrder() {
         TestHall hall = hallIn(1, 1, 1);
         for (int sort = 0; sort < 4; sort++) {
@@ -569,6 +635,18 @@ public final class PromiseTests {
         hall.days(2);
         due("a day that is over", hall.shut(1), -1);
         due("NOW's day", hall.shut(2), -1);
+    }
+
+    private static void shutLeavesOthers() {
+        TestHall hall = hallIn(0, 1, 3);
+        hall.learner(0, 0, 0, 59, 2, false);
+        hall.learner(0, 0, 0, 59, 2, false);
+        anyLearner(hall, 0);
+        hall.deal();
+        hall.cancel(0);
+        due("nobody is booked on day 3", hall.shut(3), 0);
+        due("those of other days stay", hall.look(1, 1), 104);
+        due("and those ahead", hall.look(2, 1), 48);
     }
 
     private static void shutByOrder() {
@@ -761,6 +839,12 @@ public final class PromiseTests {
             }
             due("ring of " + length, ring.routes(0, 240, 0), length <= 8 ? 2 : 0);
         }
+        TestHall both = new TestHall();
+        for (int i = 0; i < 9; i++) {
+            both.street(i, (i + 1) % 9, 1, 0);
+        }
+        both.street(0, 1, 1, 0);
+        due("a short route behind one that is too long", both.routes(0, 240, 0), 2);
     }
 
     private static void route() {
