@@ -360,14 +360,21 @@ public final class TestHall {
     private int dealLine() {
         int dealt = 0;
         for (int i = 0; i < line.size; i++) {
-            Learner who = learners[line.numbers[i]];
-            int slot = calendar.leastFree(who.town, Math.max(who.wish, who.from), who.to);
-            if (slot != NONE) {
-                book(who, slot);
+            Learner who = find(line.numbers[i]);
+            if (who != null && bookLeast(who)) {
                 dealt++;
             }
         }
         return dealt;
+    }
+
+    private boolean bookLeast(Learner who) {
+        int slot = calendar.leastFree(who.town, Math.max(who.wish, who.from), who.to);
+        if (slot == NONE) {
+            return false;
+        }
+        book(who, slot);
+        return true;
     }
 
     /** Nothing that the order asks for changes while slots move up, so the line is made once. */
@@ -401,8 +408,8 @@ public final class TestHall {
 
     private Learner firstToMove(int slot) {
         for (int i = 0; i < line.size; i++) {
-            Learner who = learners[line.numbers[i]];
-            if (who.slot > slot && isSuiting(slot, who)) {
+            Learner who = find(line.numbers[i]);
+            if (who != null && who.slot > slot && isSuiting(slot, who)) {
                 return who;
             }
         }
@@ -1083,6 +1090,10 @@ public final class TestHall {
             return true;
         }
 
+        private boolean isOpen(int street) {
+            return isWithin(street, 0, size - 1) && !closed[street];
+        }
+
         int countRoutes(int least, int most, int marks) {
             boolean told = isWithin(least, 0, MAX_ROUTE_MINUTES) && isWithin(most, 0, MAX_ROUTE_MINUTES);
             if (!told || !isWithin(marks, 0, MAX_MARKS)) {
@@ -1118,12 +1129,12 @@ public final class TestHall {
 
         /** Streets stand at a crossing by their numbers, so routes are met in the order that numbers them. */
         private boolean walk(int crossing, int parts, int minutes, int marks, int used) {
-            if (parts >= MAX_PARTS) {
+            if (parts >= MAX_PARTS || !isWithin(crossing, 0, CROSSINGS - 1)) {
                 return false;
             }
             for (int i = 0; i < sizeAt[crossing]; i++) {
                 int street = streetsAt[crossing][i];
-                if (closed[street] || (used >> street & 1) != 0) {
+                if (!isOpen(street) || (used >> street & 1) != 0) {
                     continue;
                 }
                 path[parts] = street;
