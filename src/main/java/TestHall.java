@@ -592,20 +592,12 @@ public final class TestHall {
         }
 
         private int leastFreeOn(int day, int town) {
-            int least = NONE;
-            for (int examiner = 0; examiner < examiners; examiner++) {
-                if (townOf(examiner, day) == town) {
-                    int slot = firstFreeOf(examiner, day);
-                    least = slot != NONE && (least == NONE || slot < least) ? slot : least;
-                }
-            }
-            return least;
-        }
-
-        private int firstFreeOf(int examiner, int day) {
             for (int hour = 0; hour < HOURS; hour++) {
-                if (isFree(slotOf(day, hour, examiner))) {
-                    return slotOf(day, hour, examiner);
+                for (int examiner = 0; examiner < examiners; examiner++) {
+                    int slot = slotOf(day, hour, examiner);
+                    if (townOf(examiner, day) == town && isFree(slot)) {
+                        return slot;
+                    }
                 }
             }
             return NONE;

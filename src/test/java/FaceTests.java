@@ -8,6 +8,8 @@ import java.nio.file.Path;
 import java.util.ArrayList;
 import java.util.Arrays;
 import java.util.List;
+import java.util.Map;
+import java.util.TreeMap;
 import java.util.TreeSet;
 import java.util.regex.Matcher;
 import java.util.regex.Pattern;
@@ -37,6 +39,8 @@ public final class FaceTests {
         outerClass();
         innerClasses();
         source();
+        methodsAndCalls();
+        readme();
         System.out.println(wrong == 0 ? "the face is the document's" : wrong + " things are not as due");
         if (wrong != 0) {
             System.exit(1);
@@ -92,10 +96,17 @@ public final class FaceTests {
         }
     }
 
+    private static String read(String path) throws Exception {
+        return new String(Files.readAllBytes(Path.of(path)), StandardCharsets.UTF_8);
+    }
+
+    private static String code() throws Exception {
+        String whole = read("src/main/java/TestHall.java");
+        return whole.replaceAll("(?s)/\\*.*?\\*/", "").replaceAll("//[^\n]*", "");
+    }
+
     private static void source() throws Exception {
-        Path path = Path.of("src/main/java/TestHall.java");
-        String whole = new String(Files.readAllBytes(path), StandardCharsets.UTF_8);
-        String code = whole.replaceAll("(?s)/\\*.*?\\*/", "").replaceAll("//[^\n]*", "");
+        String code = code();
         for (String banned : BANNED) {
             Matcher found = Pattern.compile(banned).matcher(code);
             check(!found.find(), "the source has " + banned);
@@ -105,6 +116,59 @@ public final class FaceTests {
             boolean listed = imports.group(1).equals("java.util.Arrays")
                     || imports.group(1).equals("java.util.NoSuchElementException");
             check(listed, "imports " + imports.group(1));
+        }
+    }
+
+    /** Methods of one name are taken as one, which can only make the calls look deeper than they are. */
+    private static void methodsAndCalls() throws Exception {
+        Pattern method = Pattern.compile("(?ms)^( +)(?:public |private )?(?:static )?\\w+ (\\w+)\\([^;{}]*\\{(.*?)^\\1\\}");
+        Map<String, String> bodies = new TreeMap<>();
+        Matcher found = method.matcher(code().replaceAll("(?m)^public final class.*$", "")
+                .replaceAll("(?m)^    private static final class.*$", ""));
+        while (found.find()) {
+            bodies.merge(found.group(2), found.group(3), String::concat);
+            check(found.group(3).lines().count() <= 60, "over sixty lines: " + found.group(2));
+        }
+        Map<String, TreeSet<String>> calls = new TreeMap<>();
+        for (Map.Entry<String, String> entry : bodies.entrySet()) {
+            Matcher called = Pattern.compile("\\b(\\w+)\\(").matcher(entry.getValue());
+            calls.put(entry.getKey(), new TreeSet<>());
+            while (called.find()) {
+                if (bodies.containsKey(called.group(1))) {
+                    calls.get(entry.getKey()).add(called.group(1));
+                }
+            }
+        }
+        for (String face : FACE) {
+            String name = face.substring(face.indexOf(' ') + 1, face.indexOf('('));
+            check(calls.containsKey(name), "not found in the source: " + name);
+            List<String> deepest = deepestFrom(name, calls, new ArrayList<>());
+            check(deepest.size() <= 8, "calls over eight deep: " + deepest);
+        }
+    }
+
+    /** The longest chain of calls that comes to no method twice: what comes back to one is recursion. */
+    private static List<String> deepestFrom(String name, Map<String, TreeSet<String>> calls, List<String> chain) {
+        List<String> longer = new ArrayList<>(chain);
+        longer.add(name);
+        List<String> deepest = longer;
+        for (String called : calls.getOrDefault(name, new TreeSet<>())) {
+            if (!longer.contains(called)) {
+                List<String> through = deepestFrom(called, calls, longer);
+                deepest = through.size() > deepest.size() ? through : deepest;
+            }
+        }
+        return deepest;
+    }
+
+    private static void readme() throws Exception {
+        String readme = read("README.md");
+        for (String face : FACE) {
+            String name = face.substring(face.indexOf(' ') + 1, face.indexOf('('));
+            check(Pattern.compile("`" + name + "\\(").matcher(readme).find(), "README.md does not tell of " + name);
+        }
+        for (String test : new String[] {"PromiseTests", "BoundaryTests", "ModelTests", "FaceTests", ".ci/run"}) {
+            check(readme.contains(test), "README.md does not tell of " + test);
         }
     }
 }

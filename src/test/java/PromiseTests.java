@@ -64,6 +64,8 @@ public final class PromiseTests {
         differs();
         count();
         load();
+        readmeBooking();
+        readmeTextAndRoutes();
         System.out.println(wrong == 0 ? "all promises hold" : wrong + " answers are not as due");
         if (wrong != 0) {
             System.exit(1);
@@ -977,5 +979,38 @@ public final class PromiseTests {
             due("wild examiner", hall.load(wild, 0), -1);
             due("wild what", hall.load(0, wild), -1);
         }
+    }
+
+    /** The examples of README.md, call for call. */
+    private static void readmeBooking() {
+        TestHall hall = new TestHall();
+        int examiner = hall.examiner();
+        due("readme: examiner", examiner, 0);
+        due("readme: place", hall.place(examiner, 2, 1, 5), 0);
+        int late = hall.learner(2, 0, 0, 59, 3, true);
+        int early = hall.learner(2, 1, 0, 59, 0, true);
+        due("readme: deal", hall.deal(), 2);
+        due("readme: late", hall.look(late, 1), 144);
+        due("readme: early", hall.look(early, 1), 48);
+        due("readme: shut", hall.shut(1), 0);
+        due("readme: early anew", hall.look(early, 1), 96);
+        due("readme: days", hall.days(2), 2);
+        due("readme: held", hall.held(early, true), true);
+        due("readme: load", hall.load(examiner, 1), 1);
+    }
+
+    private static void readmeTextAndRoutes() {
+        TestHall hall = new TestHall();
+        due("readme: both lines",
+                read(hall, "first 9 when 0 < tries and left < 10 ;\nfirst 5 when sort = 1 ;\n"), 0);
+        due("readme: feed", hall.feed(0x6669727374203520L, 0x7768656E20736F72L, 0x74203D2031203B00L), 23);
+        due("readme: text", hall.text(), 0);
+        due("readme: one line", hall.count(7), 1);
+        hall.street(0, 1, 5, 1);
+        hall.street(1, 2, 5, 2);
+        hall.street(2, 0, 5, 4);
+        due("readme: routes", hall.routes(0, 240, 7), 2);
+        due("readme: route", hall.route(0, 240, 7, 3), 15);
+        due("readme: part", hall.part(0), 2);
     }
 }
